@@ -270,8 +270,8 @@ public final class StationStarter {
         int many = 0;
         for (int i = books.ups - 1; i >= 0; i--) {
             int u = books.upAt(i, 0);
-            // An older edition's row stands further ahead: the unit's place is that of the edition that is up.
-            if (isUnit(u) && state.stages[u] == UP && state.editions[u] == books.upAt(i, 1)) {
+            // Rows of older editions come behind the one that is up: the unit is closed by then.
+            if (isUnit(u) && state.stages[u] == UP) {
                 int kind = machine.runClosing(station, u);
                 state.stages[u] = CLOSED;
                 books.addClosed(u, kind);
@@ -1386,13 +1386,12 @@ public final class StationStarter {
             Arrays.fill(statics, u * MOST_ITEMS, (u + 1) * MOST_ITEMS, 0);
         }
 
-        /** What a demand can change; the rest is the same in both. */
+        /** What a demand can change, but for needs, of which the counts tell how many there are. */
         void copy(State from) {
             System.arraycopy(from.stages, 0, stages, 0, stages.length);
             System.arraycopy(from.statics, 0, statics, 0, statics.length);
             System.arraycopy(from.causeFirst, 0, causeFirst, 0, causeFirst.length);
             System.arraycopy(from.causeSecond, 0, causeSecond, 0, causeSecond.length);
-            System.arraycopy(from.needs, 0, needs, 0, needs.length);
             System.arraycopy(from.needCounts, 0, needCounts, 0, needCounts.length);
             System.arraycopy(from.goals, 0, goals, 0, goals.length);
         }
@@ -1822,7 +1821,6 @@ public final class StationStarter {
         }
 
         private void drop() {
-            size = top.floor;
             open--;
             top = frames[open - 1];
         }

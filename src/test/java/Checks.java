@@ -91,14 +91,18 @@ final class Checks {
         for (int i = 0; i < row.length; i++) {
             due("cause(" + u + ", " + i + ")", starter.cause(u, i), row[i]);
         }
-        due("cause(" + u + ", " + row.length + ")", starter.cause(u, row.length), 0);
+        for (int i = row.length; i < 4; i++) {
+            due("cause(" + u + ", " + i + ")", starter.cause(u, i), 0);
+        }
     }
 
     void dueEnded(StationStarter starter, int... row) {
         for (int i = 0; i < row.length; i++) {
             due("ended(" + i + ")", starter.ended(i), row[i]);
         }
-        due("ended(" + row.length + ")", starter.ended(row.length), 0);
+        for (int i = row.length; i < 4; i++) {
+            due("ended(" + i + ")", starter.ended(i), 0);
+        }
     }
 
     void dueNeeds(StationStarter starter, int u, int... row) {

@@ -10,6 +10,7 @@ public final class DemandsTest {
         halfLooks();
         failing();
         catching();
+        deepest();
         planned();
         needing();
         ordering();
@@ -224,6 +225,74 @@ public final class DemandsTest {
         s = CHECKS.made("module m { static i = 0; while i < 30 { try { i = i + 1; } on { } } fail 4; } demand w { touch m; }");
         CHECKS.due("demand(0, 5000)", s.demand(0, 5000), 1);
         CHECKS.dueEnded(s, 20, 4);
+        s = CHECKS.made("module m { static x = 0; try { try { } on { x = 1; } } on { x = 2; } fail 4; } demand w { touch m; }");
+        CHECKS.due("demand(0, 50)", s.demand(0, 50), 1);
+        CHECKS.due("m.x", CHECKS.read(s, 0, 0), 0);
+        CHECKS.due("count(10)", s.count(10), 6);
+        // Nor does one of an earlier demand.
+        s = CHECKS.made("demand w { try { while 1 { } } on { } } demand v { fail 3; } demand u { touch m; } "
+                + "module m { static x = 0; try { while 1 { } } on { } } module n { static x = 0; fail 2; } demand t { touch n; }");
+        CHECKS.due("demand(0, 50)", s.demand(0, 50), 6);
+        CHECKS.due("demand(1, 50)", s.demand(1, 50), 3);
+        CHECKS.due("demand(2, 50)", s.demand(2, 50), 6);
+        CHECKS.due("demand(3, 50)", s.demand(3, 50), 1);
+        CHECKS.dueEnded(s, 20, 2);
+        CHECKS.due("demand(0, 50)", s.demand(0, 50), 6);
+        CHECKS.dueEnded(s);
+        // What a fault left of an E is gone, however often.
+        s = CHECKS.made("module m { static i = 0; static x = 5; while i < 400 { i = i + 1; try { x = 1 + 2 * (3 + 4 / 0); } on { } } "
+                + "x = 7 - (1 + 2 * (3 - 1)); } demand w { touch m; }");
+        for (int i = 0; i < 3; i++) {
+            CHECKS.due("demand(0, 5000)", s.demand(0, 5000), i == 0 ? 6 : 2);
+        }
+        s = CHECKS.made("module m { static i = 0; static x = 5; while i < 300 { i = i + 1; try { x = 1 + 2 * (3 / 0); } on { } } "
+                + "x = 7 - (1 + 2 * (3 - 1)); } demand w { touch m; } demand v { check 1 = 2 + 3 * (4 = 5 - 6 * (7 + 8)); }");
+        for (int i = 0; i < 100; i++) {
+            CHECKS.due("demand(1, 9)", s.demand(1, 9), 6);
+        }
+        CHECKS.due("demand(0, 5000)", s.demand(0, 5000), 0);
+        CHECKS.due("m.x", CHECKS.read(s, 0, 1), 2);
+    }
+
+    /** All units are coming up at once, each in as deep an E as can be: nothing of the outer ones is lost. */
+    private static void deepest() {
+        StringBuilder text = new StringBuilder();
+        for (int u = 0; u < 24; u++) {
+            String inner = u == 23 ? "m0.s + 1" : "m" + (u + 1) + ".s";
+            text.append("module m").append(u).append("{static s=2;s=");
+            for (int i = 0; i < 9; i++) {
+                text.append(i == 0 ? "0<1+1*(" : "1<1+2*(");
+            }
+            text.append("0-1+1*").append(inner).append(")))))))));}");
+        }
+        text.append("demand w{touch m0;}");
+        CHECKS.due("the text's length is kept low", text.length() < 4000, true);
+        StationStarter s = CHECKS.made(text.toString());
+        CHECKS.due("foresee(0, 5000)", s.foresee(0, 5000), 24);
+        CHECKS.due("demand(0, 5000)", s.demand(0, 5000), 0);
+        CHECKS.due("count(7)", s.count(7), 24);
+        CHECKS.due("count(5)", s.count(5), 1);
+        CHECKS.dueHalf(s, 0, 23, 0, 0);
+        for (int i = 0; i < 24; i++) {
+            CHECKS.dueUp(s, i, 23 - i, 0, 0);
+            CHECKS.due("read(" + i + ", 0)", CHECKS.read(s, i, 0), 1);
+            if (i < 23) {
+                CHECKS.dueNeeds(s, i, i + 1);
+            }
+        }
+        CHECKS.dueNeeds(s, 23, 0);
+        // All of them fail, from the innermost outward.
+        s = CHECKS.made(text.toString().replace("m0.s + 1", "1/0"));
+        CHECKS.due("demand(0, 5000)", s.demand(0, 5000), 1);
+        CHECKS.dueEnded(s, 20, 13);
+        CHECKS.due("count(4)", s.count(4), 24);
+        s = CHECKS.made(text.toString().replace("m0.s + 1", "1/0"));
+        CHECKS.due("demand(0, 300)", s.demand(0, 300), 6);
+        for (int u = 0; u < 24; u++) {
+            CHECKS.due("unit(" + u + ", 0)", CHECKS.unit(s, u, 0), u < 7 ? 3 : 0);
+            CHECKS.due("cause(" + u + ", 0)", s.cause(u, 0), u < 7 ? 22 : 0);
+            CHECKS.due("cause(" + u + ", 1)", s.cause(u, 1), 0);
+        }
     }
 
     private static void planned() {
@@ -267,6 +336,10 @@ public final class DemandsTest {
         s = CHECKS.made("module b { static x = 3; } module m on b { } module n { static y = m.x; } demand w { touch m; touch n; }");
         CHECKS.due("demand(0, 100)", s.demand(0, 100), 0);
         CHECKS.dueNeeds(s, 1);
+        CHECKS.dueNeeds(s, 2, 0);
+        s = CHECKS.made("module m { static a = n.x; touch o; } module n { static x = 1; } module o { static y = m.a; } demand w { touch m; }");
+        CHECKS.due("demand(0, 100)", s.demand(0, 100), 0);
+        CHECKS.dueNeeds(s, 0, 1, 2);
         CHECKS.dueNeeds(s, 2, 0);
         // NEEDED is noted ahead of TOUCH, behind E.
         s = CHECKS.made("module a { static x = 1; } module b { fail 1; static z = 1; } module c { b.z = a.x; } demand w { touch c; }");
@@ -429,5 +502,17 @@ public final class DemandsTest {
         CHECKS.due("foresee(1, 100)", s.foresee(1, 100), 0);
         CHECKS.dueCause(s, 0, 20, 12);
         CHECKS.due("read(2, 0)", CHECKS.read(s, 2, 0), 8);
+        // Statics of what is up stay as they are, too, and what was NEEDED.
+        s = CHECKS.made("module a { static x = 3; } module b { static y = a.x; } module c { a.x = 9; fail 2; } demand w { touch b; } demand v { a.x = 5; b.y = 6; touch c; }");
+        CHECKS.due("demand(0, 100)", s.demand(0, 100), 0);
+        CHECKS.due("foresee(1, 100)", s.foresee(1, 100), 0);
+        CHECKS.due("a.x", CHECKS.read(s, 0, 0), 3);
+        CHECKS.due("b.y", CHECKS.read(s, 1, 0), 3);
+        CHECKS.dueNeeds(s, 1, 0);
+        CHECKS.dueNeeds(s, 2);
+        CHECKS.dueCause(s, 2);
+        CHECKS.due("demand(1, 100)", s.demand(1, 100), 1);
+        CHECKS.due("a.x", CHECKS.read(s, 0, 0), 9);
+        CHECKS.dueNeeds(s, 2, 0);
     }
 }

@@ -9,6 +9,7 @@ public final class KeepingTest {
         healingToTheEnd();
         closing();
         closingFaults();
+        closingThenAnew();
         closingOrder();
         beating();
         tellingOfUnits();
@@ -106,6 +107,13 @@ public final class KeepingTest {
         CHECKS.due("unit(0, 0)", CHECKS.unit(s, 0, 0), 2);
         CHECKS.due("unit(1, 0)", CHECKS.unit(s, 1, 0), 2);
         CHECKS.due("heal(2)", s.heal(2), 1);
+        // The other way round, with the first unit at the end.
+        StationStarter t = CHECKS.made("module a { touch b; } module b { }");
+        for (int e = 1; e <= 30; e++) {
+            CHECKS.due("heal(0)", t.heal(0), 1);
+        }
+        CHECKS.due("heal(1)", t.heal(1), -1);
+        CHECKS.due("unit(1, 1)", CHECKS.unit(t, 1, 1), 0);
         CHECKS.dueUp(s, 30, 1, 30, 0);
         CHECKS.due("count(7)", s.count(7), 31);
     }
@@ -173,6 +181,18 @@ public final class KeepingTest {
         CHECKS.dueOrder(s, 0, 2, 0, 0, 0);
         CHECKS.dueEnded(s);
         CHECKS.due("count(4)", s.count(4), 0);
+    }
+
+    private static void closingThenAnew() {
+        StationStarter s = CHECKS.made("module a { static x = 1; closing { touch a; } } demand w { touch a; }");
+        CHECKS.due("demand(0, 99)", s.demand(0, 99), 0);
+        CHECKS.due("close()", s.close(), 1);
+        Feeder.station(s, "module a { static x = b.y; } module b { static y = 6; } demand w { touch a; }");
+        CHECKS.due("demand(0, 99)", s.demand(0, 99), 0);
+        CHECKS.due("a.x", CHECKS.read(s, 0, 0), 6);
+        CHECKS.due("close()", s.close(), 2);
+        CHECKS.dueClosed(s, 0, 0, 0);
+        CHECKS.dueClosed(s, 1, 1, 0);
     }
 
     private static void closingOrder() {
@@ -249,6 +269,13 @@ public final class KeepingTest {
         for (int u = 0; u < rows.length; u++) {
             for (int on = 0; on < rows.length; on++) {
                 CHECKS.due("leans(" + u + ", " + on + ")", s.leans(u, on), rows[u].charAt(on) - '0');
+            }
+        }
+        StationStarter t = CHECKS.made("module a { touch b; } module b { touch c; } module c { } module d { touch a; }");
+        rows = new String[] {"0110", "0010", "0000", "1110"};
+        for (int u = 0; u < rows.length; u++) {
+            for (int on = 0; on < rows.length; on++) {
+                CHECKS.due("leans(" + u + ", " + on + ")", t.leans(u, on), rows[u].charAt(on) - '0');
             }
         }
         CHECKS.due("leans(0, 9)", s.leans(0, 9), -1);

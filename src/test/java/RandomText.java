@@ -279,6 +279,9 @@ final class RandomText {
             "kind", "beats", "{", "}", "(", ")", ",", ";", "=", "<", "+", "-", "*", "/", "%", ".", "d0", "m0", "r0",
             "s0", "k0", "w0", "0", "1", "10", "999999999", "1234567890", "abcdefghijkl", "abcdefghijklm", "A", "#",
             "&", ">", "12ab", "r0 , r0", "((((((((((1))))))))))", "-----------1", "-- -- -- -- --1"};
+        if (random.nextInt(2) == 0) {
+            return swapToken(text, random);
+        }
         int times = 1 + random.nextInt(2);
         for (int i = 0; i < times && out.length() > 0; i++) {
             int at = random.nextInt(out.length() + 1);
@@ -299,5 +302,23 @@ final class RandomText {
             }
         }
         return out.toString();
+    }
+
+    /** Puts a token of the text in the place of another one of its sort. */
+    private static String swapToken(String text, Random random) {
+        List<Model.Token> tokens = Model.tokens(text);
+        Model.Token gone = tokens.get(random.nextInt(tokens.size()));
+        List<Model.Token> like = new ArrayList<>();
+        for (Model.Token token : tokens) {
+            if (token.sort() == gone.sort() || random.nextInt(20) == 0) {
+                like.add(token);
+            }
+        }
+        if (like.isEmpty()) {
+            return text;
+        }
+        String put = like.get(random.nextInt(like.size())).text();
+        int end = gone.place() + gone.text().length();
+        return text.substring(0, gone.place()) + put + text.substring(end);
     }
 }

@@ -75,9 +75,18 @@ public final class TextsTest {
         CHECKS.fine("module m { setting a = 0; setting b = - 999999999; static c = a; c = b; closing { c = a; } }");
         CHECKS.fine("demand w { touch m; m.s = m.k; } module m { setting k = 1; static s = 2; }");
         CHECKS.fine("module m { static s = 1; if s { } if s < 2 { s = 1; } else { } while 0 { } try { fail 1; } on { fail 9; } }");
+        CHECKS.fine("device d from 0 to 1 pace 1; module m { static s = 1; s = s < 2; s = s = 2; order d s < 2; m.s = 1 = 1; }");
         CHECKS.fine("device d from 0 to 1 pace 1; module m { order d of d + kind * beats - - (1) / 2 % 3; check 1 = 1; }");
         // The names of items are no names of units, devices and demands.
         CHECKS.fine("device a from 0 to 1 pace 1; module m { static a = 1; static m = 2; setting d = 3; } demand d { }");
+        // Roles that are met on many ways are one each.
+        CHECKS.fine("role a { } role b like a { } role c like a, b { } role d like a, b, c { static y = 1; } "
+                + "module m has a, b, c, d { static x = y; } module n on m has a, b, c { x = y; } demand w { n.x = n.y; }");
+        // As long a text as there can be.
+        String longest = "module m{static s=1" + times(1989, "+1") + ";} ";
+        CHECKS.due("signs of the longest text", longest.length(), 4000);
+        StationStarter s = CHECKS.made(longest);
+        CHECKS.due("count(1) of the longest text", s.count(1), 1);
         // Roles and base are looked through behind the unit itself, as deep as they go.
         CHECKS.fine("role r { static x = 1; } role q like r { } module b has q { } module m on b { x = 2; }");
         CHECKS.fine("demand w { m.x = 1; } role r { static x = 1; } role q like r { } module b has q { } module m on b { }");
@@ -115,6 +124,8 @@ public final class TextsTest {
         CHECKS.fault(1, "device d from @- 1 to 5 pace 1;");
         CHECKS.fault(1, "device d from 1 to 5 pace 1@}");
         CHECKS.fault(1, "role r @on r { }");
+        CHECKS.fault(1, "module m on @5 { }");
+        CHECKS.fault(1, "module m on @{ }");
         CHECKS.fault(1, "role r @has r { }");
         CHECKS.fault(1, "module m @like m { }");
         CHECKS.fault(1, "role r { } module m has r @on m { }");
@@ -255,6 +266,12 @@ public final class TextsTest {
         CHECKS.fine("module m { static s = " + times(9, "(") + "1" + times(9, ")") + "; }");
         CHECKS.fault(5, "module m { static s = " + times(10, "(") + "@1" + times(10, ")") + "; }");
         CHECKS.fine("module m { static s = " + times(9, "- ") + "1; }");
+        for (String start : new String[] {"static t =", "s =", "m.s =", "order d", "check", "if", "while"}) {
+            String end = start.equals("if") || start.equals("while") ? " { } }" : "; }";
+            String head = "device d from 0 to 1 pace 1; module m { static s = 1; " + start + " ";
+            CHECKS.fine(head + "1 = 1 - 1 * " + times(9, "- ") + "s" + end);
+            CHECKS.fault(5, head + "1 < 1 + 1 / " + times(10, "- ") + "@s" + end);
+        }
         CHECKS.fault(5, "module m { static s = " + times(10, "- ") + "@1; }");
         CHECKS.fault(5, "module m { static s = " + times(5, "- (") + "@- 1" + times(5, ")") + "; }");
         CHECKS.fault(5, "module m { static s = 1; s = " + times(10, "- ") + "@s; }");
@@ -301,18 +318,27 @@ public final class TextsTest {
     }
 
     private static void takingPlace() {
-        StationStarter s = CHECKS.made("device d from 3 to 9 pace 1; module m { static s = 5; order d 4; } demand w { touch m; }");
+        StationStarter s = CHECKS.made("device d from 3 to 9 pace 1; module m { static s = 5; order d 4; } "
+                + "module q { fail 4; } demand w { touch m; } demand v { touch m; touch q; }");
         CHECKS.due("demand(0, 100)", s.demand(0, 100), 0);
         CHECKS.due("heal(0)", s.heal(0), 1);
         CHECKS.due("demand(0, 100)", s.demand(0, 100), 0);
         CHECKS.due("plan(0, 3)", s.plan(0, 3), true);
-        CHECKS.due("foresee(0, 100)", s.foresee(0, 100), 0);
+        CHECKS.due("heal(0)", s.heal(0), 1);
+        CHECKS.due("foresee(0, 100)", s.foresee(0, 100), 1);
+        CHECKS.due("demand(0, 100)", s.demand(0, 100), 0);
+        CHECKS.due("heal(0)", s.heal(0), 1);
+        CHECKS.due("demand(0, 100)", s.demand(0, 100), 1);
+        CHECKS.due("heal(0)", s.heal(0), 1);
+        CHECKS.due("demand(1, 100)", s.demand(1, 100), 1);
         CHECKS.due("beat(2)", s.beat(2), 2);
         int steps = s.count(9);
         CHECKS.due("station() with a fault", Feeder.station(s, "module"), 1 + 16 * 6);
-        CHECKS.due("unit(0, 1)", CHECKS.unit(s, 0, 1), 1);
+        CHECKS.due("unit(0, 1)", CHECKS.unit(s, 0, 1), 4);
+        CHECKS.dueEnded(s, 20, 4);
+        CHECKS.due("foreseen(0)", s.foreseen(0), 0);
         CHECKS.due("read(0, 0)", CHECKS.read(s, 0, 0), 5);
-        CHECKS.due("count(6)", s.count(6), 2);
+        CHECKS.due("count(6)", s.count(6), 4);
         CHECKS.due("count(8)", s.count(8), 2);
         CHECKS.due("count(12)", s.count(12), 1);
         CHECKS.due("count(13)", s.count(13), 0);
@@ -327,6 +353,8 @@ public final class TextsTest {
         CHECKS.due("unit(0, 1)", CHECKS.unit(s, 0, 1), 0);
         CHECKS.due("device(0, 0)", CHECKS.device(s, 0, 0), 7);
         CHECKS.due("device(0, 1)", CHECKS.device(s, 0, 1), 7);
+        CHECKS.dueEnded(s);
+        CHECKS.due("foreseen(0)", s.foreseen(0), -1);
         CHECKS.due("up(0, 0)", s.up(0, 0), -1);
         CHECKS.due("order(0, 0)", s.order(0, 0), -1);
         CHECKS.due("closed(0, 0)", s.closed(0, 0), -1);
@@ -365,5 +393,16 @@ public final class TextsTest {
         CHECKS.due("named(1) of a number", named(s, "5", 1), -1);
         CHECKS.due("named(1) of role", named(s, "role", 1), -1);
         CHECKS.due("named(1) of M", named(s, "M", 1), -1);
+        // Names that are near one another.
+        String[] names = {"a", "aa", "aaa", "a0", "a9", "az", "b", "ba", "b0", "z", "zz", "z9", "z0", "a00", "a09", "a0a",
+            "aaaaaaaaaaaa", "aaaaaaaaaaab", "zzzzzzzzzzzz", "zzzzzzzzzzz9", "z99999999999", "baaaaaaaaaaa", "a1", "onn"};
+        StringBuilder text = new StringBuilder();
+        for (String name : names) {
+            text.append("module ").append(name).append(" { } ");
+        }
+        s = CHECKS.made(text.toString());
+        for (int i = 0; i < names.length; i++) {
+            CHECKS.due("named(1) of " + names[i], named(s, names[i], 1), i);
+        }
     }
 }
