@@ -240,14 +240,9 @@ public final class DemandsTest {
         CHECKS.due("demand(0, 50)", s.demand(0, 50), 6);
         CHECKS.dueEnded(s);
         // What a fault left of an E is gone, however often.
-        s = CHECKS.made("module m { static i = 0; static x = 5; while i < 400 { i = i + 1; try { x = 1 + 2 * (3 + 4 / 0); } on { } } "
-                + "x = 7 - (1 + 2 * (3 - 1)); } demand w { touch m; }");
-        for (int i = 0; i < 3; i++) {
-            CHECKS.due("demand(0, 5000)", s.demand(0, 5000), i == 0 ? 6 : 2);
-        }
-        s = CHECKS.made("module m { static i = 0; static x = 5; while i < 300 { i = i + 1; try { x = 1 + 2 * (3 / 0); } on { } } "
+        s = CHECKS.made("module m { static i = 0; static x = 5; while i < 330 { i = i + 1; try { x = 1 = 2 + 3 * (4 / 0); } on { } } "
                 + "x = 7 - (1 + 2 * (3 - 1)); } demand w { touch m; } demand v { check 1 = 2 + 3 * (4 = 5 - 6 * (7 + 8)); }");
-        for (int i = 0; i < 100; i++) {
+        for (int i = 0; i < 250; i++) {
             CHECKS.due("demand(1, 9)", s.demand(1, 9), 6);
         }
         CHECKS.due("demand(0, 5000)", s.demand(0, 5000), 0);
