@@ -119,8 +119,6 @@ public final class StationStarter {
     private static final int LATER_TOUCH = 23;
     private static final int OPERAND_MASK = 0xFFFFFF;
 
-    private static final int[] NO_UNITS = {};
-
     private static final int MOST_OPEN = MOST_UNITS + 1;
     // Three operands wait at most in each of the PARTS within one another.
     private static final int MOST_VALUES = MOST_OPEN * (3 * (MOST_WITHIN + 1) + 1);
@@ -593,9 +591,9 @@ public final class StationStarter {
         private int items = 0;
         private int statics = 0;
         // Where a NAME is looked for, this unit first.
-        private int[] search = NO_UNITS;
+        private int[] search = new int[0];
         // A role and those that it is like, or a module's roles so, in the order in which they are touched.
-        private int[] climb = NO_UNITS;
+        private int[] climb = new int[0];
         private int start = 0;
         private int closing = NONE;
 
@@ -1038,7 +1036,7 @@ public final class StationStarter {
             return base;
         }
 
-        /** From like or has on, which a comma stands for, too. */
+        /** Begins at like or has; each further ROLE stands behind a comma. */
         private void readRoles(Unit made) {
             int more = kind;
             for (int turn = 0; turn < tape.tokens && kind == more; turn++) {
@@ -1808,7 +1806,7 @@ public final class StationStarter {
             }
         }
 
-        /** The end of a start: the unit is up; else all is done. */
+        /** At the end of a start the unit is up; at that of a demand or closing all is done. */
         private void leave() {
             if (open <= 1) {
                 running = false;
