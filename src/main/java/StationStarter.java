@@ -1099,7 +1099,7 @@ public final class StationStarter {
             emit(DO_STORE, inUnit, made.addStatic(name));
         }
 
-        /** Within is how many BLOCKS are around. */
+        /** Within is how many BLOCKS are around, here and with PARTS below: there is one bound for both. */
         private void readBlock(int within) {
             if (kind != '{') {
                 refuse(CANNOT_STAND);
@@ -1120,7 +1120,7 @@ public final class StationStarter {
                 case NAME:
                     long store = readPlace(true);
                     take('=');
-                    readExpression(0, 0);
+                    readExpression(0, within);
                     take(';');
                     making.emit(store);
                     break;
@@ -1130,13 +1130,13 @@ public final class StationStarter {
                 case ORDER:
                     moveTo(at + 1);
                     int device = takeDevice();
-                    readExpression(0, 0);
+                    readExpression(0, within);
                     take(';');
                     emit(DO_ORDER, device, 0);
                     break;
                 case CHECK:
                     moveTo(at + 1);
-                    readExpression(0, 0);
+                    readExpression(0, within);
                     take(';');
                     emit(DO_CHECK, 0, 0);
                     break;
@@ -1161,7 +1161,7 @@ public final class StationStarter {
 
         private void readIf(int within) {
             moveTo(at + 1);
-            readExpression(0, 0);
+            readExpression(0, within);
             int unless = emit(DO_UNLESS, 0, 0);
             readBlock(within);
             if (kind == ELSE) {
@@ -1177,7 +1177,7 @@ public final class StationStarter {
 
         private void readWhile(int within, int start) {
             moveTo(at + 1);
-            readExpression(0, 0);
+            readExpression(0, within);
             int unless = emit(DO_UNLESS, 0, 0);
             readBlock(within);
             emit(DO_JUMP, start, 0);
@@ -1224,7 +1224,7 @@ public final class StationStarter {
             return making.placeWord(spot, toSet);
         }
 
-        /** Level 0 compares once, 1 adds, 2 multiplies; within is how many PARTS are around. */
+        /** Level 0 compares once, 1 adds, 2 multiplies; within is how many BLOCKS and PARTS are around. */
         private void readExpression(int level, int within) {
             if (level > 2) {
                 readPart(within);

@@ -467,7 +467,7 @@ final class Model {
             if (is("order")) {
                 at++;
                 int d = deviceHere();
-                Val e = expr(1);
+                Val e = expr(deep + 1);
                 want(";");
                 return c -> {
                     step();
@@ -476,7 +476,7 @@ final class Model {
             }
             if (is("check")) {
                 at++;
-                Val e = expr(1);
+                Val e = expr(deep + 1);
                 want(";");
                 return c -> {
                     step();
@@ -496,7 +496,7 @@ final class Model {
             }
             if (is("if")) {
                 at++;
-                Val e = expr(1);
+                Val e = expr(deep + 1);
                 Do yes = block(deep + 1);
                 Do no = c -> {
                 };
@@ -516,7 +516,7 @@ final class Model {
             }
             if (is("while")) {
                 at++;
-                Val e = expr(1);
+                Val e = expr(deep + 1);
                 Do b = block(deep + 1);
                 return c -> {
                     while (true) {
@@ -548,7 +548,7 @@ final class Model {
             }
             Place p = place(true);
             want("=");
-            Val e = expr(1);
+            Val e = expr(deep + 1);
             want(";");
             return c -> {
                 step();

@@ -278,7 +278,8 @@ final class RandomText {
             "closing", "setting", "static", "touch", "order", "check", "fail", "if", "else", "while", "try", "of",
             "kind", "beats", "{", "}", "(", ")", ",", ";", "=", "<", "+", "-", "*", "/", "%", ".", "d0", "m0", "r0",
             "s0", "k0", "w0", "0", "1", "10", "999999999", "1234567890", "abcdefghijkl", "abcdefghijklm", "A", "#",
-            "&", ">", "12ab", "r0 , r0", "((((((((((1))))))))))", "-----------1", "-- -- -- -- --1"};
+            "&", ">", "12ab", "r0 , r0", "((((((((((1))))))))))", "-----------1", "-- -- -- -- --1",
+            "((((((((1))))))))", "-------- 1", "try{try{try{try{try{try{try{try{check 1;", "{try{try{try{try{try{try{try{"};
         if (random.nextInt(2) == 0) {
             return swapToken(text, random);
         }

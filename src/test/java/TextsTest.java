@@ -12,6 +12,7 @@ public final class TextsTest {
         numbers();
         tooMany();
         within();
+        partsInBlocks();
         sorts();
         endOfText();
         takingPlace();
@@ -258,11 +259,13 @@ public final class TextsTest {
 
     private static void within() {
         CHECKS.fine("demand w " + times(9, "{if 1") + "{" + tail(10));
-        CHECKS.fault(5, "demand w " + times(10, "{if 1") + "@{" + times(11, "}"));
-        CHECKS.fault(5, "module m { closing " + times(10, "{while 1") + "@{" + times(12, "}"));
+        CHECKS.fine("demand w " + times(9, "{try") + "{" + times(9, "} on { }") + "}");
+        CHECKS.fault(5, "demand w " + times(10, "{try") + "@{");
+        CHECKS.fault(5, "demand w " + times(9, "{try") + "{ try @{");
+        CHECKS.fault(5, "module m { closing " + times(10, "{try") + "@{" + times(12, "}"));
         CHECKS.fault(5, "module m { " + times(10, "try {") + "try @{" + times(12, "}"));
-        CHECKS.fault(5, "module m { " + times(9, "if 0 {") + "try { } on { if 0 @{");
-        CHECKS.fault(1, "demand w " + times(10, "{if 1") + "@;");
+        CHECKS.fault(5, "module m { " + times(9, "if 0 {") + "try { } on { try @{");
+        CHECKS.fault(1, "demand w " + times(10, "{try") + "@;");
         CHECKS.fine("module m { static s = " + times(9, "(") + "1" + times(9, ")") + "; }");
         CHECKS.fault(5, "module m { static s = " + times(10, "(") + "@1" + times(10, ")") + "; }");
         CHECKS.fine("module m { static s = " + times(9, "- ") + "1; }");
@@ -279,9 +282,46 @@ public final class TextsTest {
         CHECKS.fault(2, "module m { static s = " + times(10, "- ") + "@s; }");
         CHECKS.fault(1, "module m { static s = " + times(10, "- ") + "@; }");
         CHECKS.fault(5, "module m { static s = " + times(10, "- ") + "@of x; }");
-        // BLOCKS and PARTS are counted each for themselves, and beside one another they do not count.
-        CHECKS.fine("demand w " + times(9, "{if 1") + "{check " + times(9, "(") + "1" + times(9, ")") + ";" + tail(10));
+        // Beside one another they do not count.
         CHECKS.fine("module m { static s = " + times(30, "- 1 + (2) * ") + "3; " + times(30, "if 1 { } ") + "}");
+    }
+
+    /** BLOCKS and PARTS are counted together: a PART is within the BLOCKS around it, too. */
+    private static void partsInBlocks() {
+        CHECKS.fault(5, "demand d { check (((((((((@1))))))))); }");
+        CHECKS.fine("demand d { check ((((((((1)))))))); }");
+        String tries = "demand d { " + times(9, "try { ");
+        CHECKS.fault(5, tries + "check @1; }" + times(9, " on {} }"));
+        CHECKS.fine(tries + "fail 1; }" + times(9, " on {} }"));
+        String[] starts = {"s =", "m.s =", "order d", "check", "if", "while"};
+        for (String start : starts) {
+            String end = start.equals("if") || start.equals("while") ? " { } " : ";";
+            for (int blocks = 0; blocks <= 10; blocks++) {
+                String head = "device d from 0 to 1 pace 1; module m { static s = 1; " + times(blocks, "try {") + start + " ";
+                String close = times(blocks, "} on { }") + "}";
+                for (int parts = 0; parts <= 10 - blocks - 1; parts++) {
+                    CHECKS.fine(head + "2 + " + times(parts, "(") + "1" + times(parts, ")") + end + close);
+                    CHECKS.fine(head + "2 < " + times(parts, "- ") + "s" + end + close);
+                }
+                int deepest = 10 - blocks;
+                CHECKS.fault(5, head + times(deepest, "(") + "@1" + times(deepest, ")") + end + close);
+                CHECKS.fault(5, head + times(deepest, "- ") + "@s" + end + close);
+                CHECKS.fault(2, head + times(deepest, "- ") + "@t" + end + close);
+                CHECKS.fault(5, head + times(deepest, "- ") + "@x.t" + end + close);
+                CHECKS.fault(1, head + times(deepest, "- ") + "@;" + end + close);
+                CHECKS.fault(5, head + times(deepest, "- ") + "@(1)" + end + close);
+            }
+        }
+        // The BLOCK of a demand, of a closing, of on and of else count; the BODY of a unit is no BLOCK.
+        CHECKS.fault(5, "demand d { try { } on {" + times(8, "try {") + "check @1;");
+        CHECKS.fault(5, "demand d { if 1 { } else {" + times(7, "try {") + "check -@1;");
+        CHECKS.fault(5, "module m { closing {" + times(8, "while 1 {") + "check -@1;");
+        CHECKS.fault(5, "demand d {" + times(9, "if 1 {") + "while @1 {");
+        CHECKS.fine("module m {" + times(9, "if 1 {") + "if 1 { }" + times(9, "}") + " }");
+        CHECKS.fault(5, "module m {" + times(10, "if 1 {") + "if @1 { }");
+        // What has no PART may stand in the tenth BLOCK.
+        CHECKS.fine("module m { static s = 1; " + times(10, "try {") + "fail 1; touch m;" + times(10, "} on { }") + "}");
+        CHECKS.fine("demand d {" + times(9, "try {") + "fail 1;" + times(9, "} on { }") + "}");
     }
 
     /** Closes that many BLOCKS of which the innermost stands open. */
