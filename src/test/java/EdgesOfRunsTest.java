@@ -34,6 +34,7 @@ public final class EdgesOfRunsTest {
         basesThatFail();
         plannedOnes();
         stepsOfEach();
+        deepestOfAll();
         oneMoreThanTold();
         hundredThousandInAll();
         goingToTheGoal();
@@ -581,6 +582,32 @@ public final class EdgesOfRunsTest {
         dueSteps("check of d + kind + beats;", 4);
         dueSteps("static a = n.s;", 2);
         dueSteps("try { check 1 + (2 / 0) + 3; } on { }", 6);
+    }
+
+    /** "At most .. 24 units", "10 BLOCKS, PARTS within one another": all units come up within the deepest E of one another. */
+    private static void deepestOfAll() {
+        // Three numbers wait in each E for what is within: 1, 0 and 1; it tells 1 if that is 1.
+        String each = "1=0+1*";
+        StringBuilder text = new StringBuilder();
+        for (int u = 0; u < 24; u++) {
+            text.append("module m").append(u).append("{static s=1;s=").append((each + "(").repeat(9)).append(each).append('m')
+                    .append((u + 1) % 24).append(".s").append(")".repeat(9)).append(";}");
+        }
+        text.append("demand w{check ").append((each + "(").repeat(8)).append(each).append("m0.s").append(")".repeat(8)).append(";}");
+        text.append("demand v{m0.s=3;}");
+        for (int inner = 0; inner < 2; inner++) {
+            StationStarter s = CHECKS.made(text.toString().replace("module m23{static s=1;", "module m23{static s=1;m0.s=" + inner + ";"));
+            done(s, 0, inner == 1 ? 0 : 3);
+            for (int u = 0; u < 24; u++) {
+                CHECKS.dueUp(s, u, 23 - u, 0, 0);
+                dueRead(s, u, 0, inner);
+            }
+            CHECKS.due("count(5)", s.count(5), 1);
+            CHECKS.dueHalf(s, 0, 23, 0, 0);
+            CHECKS.due("STEPS", s.count(10), 24 * (2 + 1 + 9 * 4 + 4) + 2 + 1 + 8 * 4 + 4);
+            done(s, 1, 0);
+            done(s, 0, 3);
+        }
     }
 
     /** "Where one more than told .. would begin all ends: what is coming up has failed with the one kind 22." */
