@@ -727,16 +727,21 @@ public final class StationStarter {
         private static int addMissing(int[] more, int[] row, int size) {
             int end = size;
             for (int i = 0; i < more.length; i++) {
-                boolean missing = true;
-                for (int j = 0; j < end; j++) {
-                    missing &= row[j] != more[i];
-                }
-                if (missing && end < row.length) {
+                if (end < row.length && !contains(row, end, more[i])) {
                     row[end] = more[i];
                     end++;
                 }
             }
             return end;
+        }
+
+        private static boolean contains(int[] row, int size, int wanted) {
+            for (int i = 0; i < size && i < row.length; i++) {
+                if (row[i] == wanted) {
+                    return true;
+                }
+            }
+            return false;
         }
 
         void addDemand(long name, int start) {
